@@ -291,10 +291,11 @@ public final class QueryRunner {
 
         /** A byte for which a text has no place any more is cut off. */
         void appendByte(int at, int letter) {
-            int length = lengthOf(at);
+            int first = at * WORDS;
+            int length = (int) words[first + LENGTH_WORD] & 255;
             if (length < MOST_BYTES) {
-                words[at * WORDS + length / 8] |= (long) letter << (56 - 8 * (length % 8));
-                words[at * WORDS + LENGTH_WORD]++;
+                words[first + length / 8] |= (long) letter << (56 - 8 * (length % 8));
+                words[first + LENGTH_WORD]++;
             }
         }
 
@@ -1196,7 +1197,9 @@ public final class QueryRunner {
         }
 
         int rankRows(int rows) {
-            room.emptyBuckets();
+            if (query.onlyDifferent) {
+                room.emptyBuckets();
+            }
             int left = 0;
             for (int row = 0; row < rows; row++) {
                 if (!query.onlyDifferent || isNewRow(row)) {

@@ -254,7 +254,7 @@ public final class RunTest {
         }
     }
 
-    /** 1600 combinations in 79 groups by a sum, and each in a group of its own. */
+    /** 1600 combinations, each a group of its own, or with 79 sums that differ. */
     private static void manyGroups() {
         QueryRunner q = sized(40, 40);
         q.group(q.column(0, 0));

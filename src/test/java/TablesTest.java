@@ -41,7 +41,7 @@ public final class TablesTest {
         check.same("1: no value", q.value(0, 0), 0);
         check.same("1: no letter", q.letter(0, 0, 0), -1);
         check.yes("1: the hand is NULL", handIsNull(q));
-        check.same("1: the first table is made already", q.table(1, 1), 2);
+        check.same("1: two tables are there by now", q.table(1, 1), 2);
         check.same("1: the first node is 0", q.constant(), 0);
         check.same("1: cell 0 is NULL", q.type(0), 0);
         check.same("1: the first item is 0", q.item(0), 0);
