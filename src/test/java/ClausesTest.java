@@ -19,12 +19,6 @@ public final class ClausesTest {
         check.done();
     }
 
-    private static void answers(String what, QueryRunner q, int items, String due) {
-        int rows = q.run();
-        String got = Make.answers(q, rows, items);
-        check.yes(what + ": " + got + ", due is " + due, got.equals(due));
-    }
-
     /** A number, a text and a truth: (3,b,true) (1,a,NULL) (NULL,b,false) (3,NULL,true) (1,a,NULL). */
     private static QueryRunner five() {
         QueryRunner q = new QueryRunner();
@@ -40,17 +34,17 @@ public final class ClausesTest {
     private static void whereChooses() {
         QueryRunner q = five();
         q.item(q.column(0, 0));
-        answers("13: no condition", q, 1, "3|1|null|3|1");
+        check.answers("13: no condition", q, 1, "3|1|null|3|1");
         check.yes("13: a column of truths", q.where(q.column(0, 2)));
-        answers("13: where it is true", q, 1, "3|3");
+        check.answers("13: where it is true", q, 1, "3|3");
         check.yes("13: another one from now on", q.where(q.node(25, q.column(0, 2), 0)));
-        answers("13: NULL is not true", q, 1, "null");
+        check.answers("13: NULL is not true", q, 1, "null");
         check.yes("13: NULL itself", q.where(Make.constant(q, null)));
-        answers("13: none counts", q, 1, "");
+        check.answers("13: none counts", q, 1, "");
         check.yes("13: a part of another", q.where(2));
-        answers("13: is the condition as it is", q, 1, "3|3");
+        check.answers("13: is the condition as it is", q, 1, "3|3");
         check.yes("13: none", q.where(-1));
-        answers("13: no condition again", q, 1, "3|1|null|3|1");
+        check.answers("13: no condition again", q, 1, "3|1|null|3|1");
     }
 
     private static void whereRefuses() {
@@ -64,7 +58,7 @@ public final class ClausesTest {
         for (int node : wrong) {
             check.no("13: where(" + node + ")", q.where(node));
         }
-        answers("13: the condition is as before", q, 1, "3|3");
+        check.answers("13: the condition is as before", q, 1, "3|3");
     }
 
     private static void itemsAreAdded() {
@@ -80,7 +74,7 @@ public final class ClausesTest {
         }
         check.same("14: there are 8", q.item(node), -1);
         q.limit(1);
-        answers("14: eight items", q, 8, "3,3,3,3,3,3,3,3");
+        check.answers("14: eight items", q, 8, "3,3,3,3,3,3,3,3");
     }
 
     private static void groupsAreMade() {
@@ -88,17 +82,17 @@ public final class ClausesTest {
         check.yes("15: a group", q.group(q.column(0, 0)));
         q.item(q.column(0, 0));
         q.item(q.node(5, 0, 0));
-        answers("15: in the order of the first ones, NULL like NULL", q, 2, "3,2|1,2|null,1");
+        check.answers("15: in the order of the first ones, NULL like NULL", q, 2, "3,2|1,2|null,1");
         check.yes("15: a second group", q.group(q.column(0, 1)));
-        answers("15: by both", q, 2, "3,1|1,2|null,1|3,1");
+        check.answers("15: by both", q, 2, "3,1|1,2|null,1|3,1");
         q.item(q.column(0, 1));
-        answers("15: its column may be an item", q, 3, "3,1,b|1,2,a|null,1,b|3,1,null");
+        check.answers("15: its column may be an item", q, 3, "3,1,b|1,2,a|null,1,b|3,1,null");
         q.where(Make.constant(q, false));
-        answers("15: no combination, no group", q, 3, "");
+        check.answers("15: no combination, no group", q, 3, "");
         QueryRunner r = five();
         r.group(r.column(0, 1));
         r.item(Make.constant(r, 8));
-        answers("15: groups without their columns in items", r, 1, "8|8|8");
+        check.answers("15: groups without their columns in items", r, 1, "8|8|8");
     }
 
     private static void groupRefuses() {
@@ -130,13 +124,13 @@ public final class ClausesTest {
     }
 
     private static void ordersRise() {
-        answers("16: NULL behind all", ordered(false, false), 2, "1,a|1,a|3,b|3,null|null,b");
-        answers("16: the second falling", ordered(false, true), 2, "1,a|1,a|3,null|3,b|null,b");
+        check.answers("16: NULL behind all", ordered(false, false), 2, "1,a|1,a|3,b|3,null|null,b");
+        check.answers("16: the second falling", ordered(false, true), 2, "1,a|1,a|3,null|3,b|null,b");
     }
 
     private static void ordersFall() {
-        answers("16: the first falling", ordered(true, false), 2, "null,b|3,b|3,null|1,a|1,a");
-        answers("16: both falling", ordered(true, true), 2, "null,b|3,null|3,b|1,a|1,a");
+        check.answers("16: the first falling", ordered(true, false), 2, "null,b|3,b|3,null|1,a|1,a");
+        check.answers("16: both falling", ordered(true, true), 2, "null,b|3,null|3,b|1,a|1,a");
     }
 
     private static void ordersOfEachType() {
@@ -149,11 +143,11 @@ public final class ClausesTest {
         q.item(q.column(0, 0));
         q.item(q.column(0, 1));
         q.order(1, false);
-        answers("16: bytes without sign, a beginning first", q, 1, "1|4|2|6|8|10|9|0|5|3|7");
+        check.answers("16: bytes without sign, a beginning first", q, 1, "1|4|2|6|8|10|9|0|5|3|7");
         QueryRunner r = five();
         r.item(r.column(0, 2));
         r.order(0, false);
-        answers("16: false before true", r, 1, "false|true|true|null|null");
+        check.answers("16: false before true", r, 1, "false|true|true|null|null");
         QueryRunner s = new QueryRunner();
         s.table(1, 1);
         for (long number : new long[] {1, Long.MAX_VALUE, -1, Long.MIN_VALUE, 0}) {
@@ -161,7 +155,7 @@ public final class ClausesTest {
         }
         s.item(s.column(0, 0));
         s.order(0, true);
-        answers("16: numbers with sign", s, 1, "9223372036854775807|1|0|-1|-9223372036854775808");
+        check.answers("16: numbers with sign", s, 1, "9223372036854775807|1|0|-1|-9223372036854775808");
     }
 
     private static void orderRefuses() {
@@ -172,14 +166,14 @@ public final class ClausesTest {
         for (int item : none) {
             check.no("16: order(" + item + ")", q.order(item, true));
         }
-        answers("16: none of them is one", q, 1, "3|1|null|3|1");
+        check.answers("16: none of them is one", q, 1, "3|1|null|3|1");
         q.item(q.column(0, 1));
         for (int i = 0; i < 3; i++) {
             check.yes("16: the same item too", q.order(0, i > 0));
         }
         check.yes("16: the fourth", q.order(1, true));
         check.no("16: there are 4", q.order(1, false));
-        answers("16: the first ones count", q, 2, "1,a|1,a|3,null|3,b|null,b");
+        check.answers("16: the first ones count", q, 2, "1,a|1,a|3,null|3,b|null,b");
     }
 
     /** 37 rows, ordered by their remainder by 3, falling: the others stay as they are. */
@@ -198,38 +192,38 @@ public final class ClausesTest {
                 due.append(due.length() == 0 ? "" : "|").append(i);
             }
         }
-        answers("16: like ones stay as they are", q, 1, due.toString());
+        check.answers("16: like ones stay as they are", q, 1, due.toString());
     }
 
     private static void limits() {
         QueryRunner q = five();
         q.item(q.column(0, 0));
         check.yes("17: two", q.limit(2));
-        answers("17: the first two", q, 1, "3|1");
+        check.answers("17: the first two", q, 1, "3|1");
         check.same("17: no third", q.kind(2, 0), -1);
         check.yes("17: none at all", q.limit(0));
-        answers("17: no row", q, 1, "");
+        check.answers("17: no row", q, 1, "");
         check.yes("17: five", q.limit(5));
-        answers("17: all", q, 1, "3|1|null|3|1");
+        check.answers("17: all", q, 1, "3|1|null|3|1");
         check.yes("17: very many", q.limit(Integer.MAX_VALUE));
-        answers("17: still all", q, 1, "3|1|null|3|1");
+        check.answers("17: still all", q, 1, "3|1|null|3|1");
         check.yes("17: one", q.limit(1));
         check.no("17: below -1", q.limit(-2));
         check.no("17: far below -1", q.limit(Integer.MIN_VALUE));
-        answers("17: one still", q, 1, "3");
+        check.answers("17: one still", q, 1, "3");
         check.yes("17: no limit", q.limit(-1));
-        answers("17: all again", q, 1, "3|1|null|3|1");
+        check.answers("17: all again", q, 1, "3|1|null|3|1");
     }
 
     private static void distinctRows() {
         QueryRunner q = five();
         q.item(q.column(0, 0));
         q.distinct(true);
-        answers("18: the first of like ones", q, 1, "3|1|null");
+        check.answers("18: the first of like ones", q, 1, "3|1|null");
         q.item(q.column(0, 1));
-        answers("18: like in all items", q, 2, "3,b|1,a|null,b|3,null");
+        check.answers("18: like in all items", q, 2, "3,b|1,a|null,b|3,null");
         q.distinct(false);
-        answers("18: off again", q, 2, "3,b|1,a|null,b|3,null|1,a");
+        check.answers("18: off again", q, 2, "3,b|1,a|null,b|3,null|1,a");
         QueryRunner r = new QueryRunner();
         r.table(1, 2);
         for (String text : new String[] {"a", "a\0", "", "\0", "a", "", "\0", null, null}) {
@@ -238,7 +232,7 @@ public final class ClausesTest {
         r.item(r.node(24, r.column(0, 0), 0));
         r.item(r.column(0, 0));
         r.distinct(true);
-        answers("18: texts of other lengths differ", r, 2, "true,a|true,a\0|true,|true,\0|false,null");
+        check.answers("18: texts of other lengths differ", r, 2, "true,a|true,a\0|true,|true,\0|false,null");
     }
 
     private static void distinctBeforeOrderBeforeLimit() {
@@ -247,12 +241,12 @@ public final class ClausesTest {
         q.distinct(true);
         q.order(0, true);
         q.limit(2);
-        answers("18: like ones go, then the order, then the limit", q, 1, "null|3");
+        check.answers("18: like ones go, then the order, then the limit", q, 1, "null|3");
         QueryRunner r = five();
         r.group(r.column(0, 1));
         r.item(r.node(5, 0, 0));
-        answers("18: groups with like items", r, 1, "2|2|1");
+        check.answers("18: groups with like items", r, 1, "2|2|1");
         r.distinct(true);
-        answers("18: their rows go, too", r, 1, "2|1");
+        check.answers("18: their rows go, too", r, 1, "2|1");
     }
 }

@@ -157,12 +157,6 @@ public final class KindsTest {
         q.item(q.node(kind, q.column(0, column), 0));
     }
 
-    private static void lines(String what, QueryRunner q, int items, String due) {
-        int rows = q.run();
-        String got = Make.answers(q, rows, items);
-        check.yes(what + ": " + got + ", due is " + due, got.equals(due));
-    }
-
     private static void aggregates() {
         QueryRunner q = filled();
         q.item(q.node(5, 0, 0));
@@ -172,17 +166,17 @@ public final class KindsTest {
         aggregate(q, 7, 0);
         aggregate(q, 8, 0);
         aggregate(q, 9, 0);
-        lines("numbers", q, 7, "4,3,3,2,-3,-9,4");
+        check.answers("numbers", q, 7, "4,3,3,2,-3,-9,4");
         QueryRunner r = filled();
         aggregate(r, 8, 1);
         aggregate(r, 9, 1);
-        lines("texts", r, 2, ",b\0");
+        check.answers("texts", r, 2, ",b\0");
         QueryRunner s = new QueryRunner();
         s.table(1, 1);
         Make.row(s, 0, MAX);
         Make.row(s, 0, 2);
         aggregate(s, 7, 0);
-        lines("a sum that wraps", s, 1, String.valueOf(MAX + 2));
+        check.answers("a sum that wraps", s, 1, String.valueOf(MAX + 2));
     }
 
     private static void aggregatesOfNothing() {
@@ -193,11 +187,11 @@ public final class KindsTest {
             aggregate(q, kind, 0);
         }
         q.item(Make.constant(q, "x"));
-        lines("no rows", q, 6, "0,0,null,null,null,x");
+        check.answers("no rows", q, 6, "0,0,null,null,null,x");
         Make.row(q, 0);
-        lines("a row of NULL", q, 6, "1,0,null,null,null,x");
+        check.answers("a row of NULL", q, 6, "1,0,null,null,null,x");
         Make.row(q, 0, 6);
-        lines("and one that is not", q, 6, "2,1,6,6,6,x");
+        check.answers("and one that is not", q, 6, "2,1,6,6,6,x");
     }
 
     /** In each group: the sum of (number * 10), plus how many rows, and the number of the group plus 1. */
@@ -214,12 +208,12 @@ public final class KindsTest {
         q.item(q.node(11, sum, q.node(5, 0, 0)));
         int one = Make.constant(q, 1);
         q.item(q.node(11, q.column(0, 0), one));
-        lines("expressions of aggregates", q, 2, "112,2|72,3");
+        check.answers("expressions of aggregates", q, 2, "112,2|72,3");
         int inside = q.column(0, 0);
         q.item(q.node(9, inside, 0));
         q.item(inside);
-        lines("a node in an aggregate that is an item as well", q, 4, "112,2,1,1|72,3,2,2");
+        check.answers("a node in an aggregate that is an item as well", q, 4, "112,2,1,1|72,3,2,2");
         q.item(sum);
-        lines("an aggregate that is a part of another item", q, 5, "112,2,1,1,110|72,3,2,2,70");
+        check.answers("an aggregate that is a part of another item", q, 5, "112,2,1,1,110|72,3,2,2,70");
     }
 }

@@ -30,10 +30,38 @@ final class Make {
         return q.add(table);
     }
 
+    /**
+     * The eight cells of the hand of an object without tables, or "refused" if they are not of
+     * these types: a row of a table shows them.
+     */
+    static String hand(QueryRunner q, int types) {
+        int table = q.table(8, types);
+        if (q.add(table) != 1) {
+            return "refused";
+        }
+        for (int i = 0; i < 8; i++) {
+            q.item(q.column(table, i));
+        }
+        return answers(q, q.run(), 8);
+    }
+
     static int constant(QueryRunner q, Object value) {
         q.clear();
         cell(q, 0, value);
         return q.constant();
+    }
+
+    /** Tables of one column of numbers, 0 and on, with so many rows each. */
+    static QueryRunner sized(int... sizes) {
+        QueryRunner q = new QueryRunner();
+        for (int table = 0; table < sizes.length; table++) {
+            q.table(1, 1);
+            for (int row = 0; row < sizes[table]; row++) {
+                q.cell(0, row);
+                q.add(table);
+            }
+        }
+        return q;
     }
 
     /** The value of an answer as an object, as cells are given; "none" if there is none such. */
@@ -54,7 +82,8 @@ final class Make {
 
     private static String answerText(QueryRunner q, int row, int item) {
         StringBuilder text = new StringBuilder();
-        for (int i = 0; i < q.value(row, item); i++) {
+        long length = q.value(row, item);
+        for (int i = 0; i < length; i++) {
             text.append((char) q.letter(row, item, i));
         }
         return text.toString();

@@ -19,60 +19,42 @@ public final class RunTest {
         check.done();
     }
 
-    private static QueryRunner sized(int... sizes) {
-        QueryRunner q = new QueryRunner();
-        for (int table = 0; table < sizes.length; table++) {
-            q.table(1, 1);
-            for (int row = 0; row < sizes[table]; row++) {
-                q.cell(0, row);
-                q.add(table);
-            }
-        }
-        return q;
-    }
-
-    private static void lines(String what, QueryRunner q, int items, String due) {
-        int rows = q.run();
-        String got = Make.answers(q, rows, items);
-        check.yes(what + ": " + got + ", due is " + due, got.equals(due));
-    }
-
     private static void refusesNothingToRun() {
         QueryRunner q = new QueryRunner();
         q.item(Make.constant(q, 1));
         check.same("19: no tables", q.run(), -1);
         q.table(1, 1);
         check.same("19: a table and an item", q.run(), 0);
-        check.same("19: no items", sized(2).run(), -1);
+        check.same("19: no items", Make.sized(2).run(), -1);
     }
 
     private static void combinationsInOrder() {
-        QueryRunner q = sized(2, 2, 3);
+        QueryRunner q = Make.sized(2, 2, 3);
         for (int table = 0; table < 3; table++) {
             q.item(q.column(table, 0));
         }
-        lines("19: the row of table 2 goes fastest", q, 3,
+        check.answers("19: the row of table 2 goes fastest", q, 3,
             "0,0,0|0,0,1|0,0,2|0,1,0|0,1,1|0,1,2|1,0,0|1,0,1|1,0,2|1,1,0|1,1,1|1,1,2");
         q.where(q.node(17, q.column(0, 0), q.column(2, 0)));
-        lines("19: a join", q, 3, "0,0,0|0,1,0|1,0,1|1,1,1");
-        QueryRunner r = sized(2, 3);
+        check.answers("19: a join", q, 3, "0,0,0|0,1,0|1,0,1|1,1,1");
+        QueryRunner r = Make.sized(2, 3);
         r.item(r.column(1, 0));
-        lines("19: tables without an item count, too", r, 1, "0|1|2|0|1|2");
+        check.answers("19: tables without an item count, too", r, 1, "0|1|2|0|1|2");
     }
 
     private static void emptyTables() {
-        QueryRunner q = sized(3, 0);
+        QueryRunner q = Make.sized(3, 0);
         q.item(q.column(0, 0));
         check.same("19: an empty table leaves no combination", q.run(), 0);
         q.add(1);
         check.same("19: until it has a row", q.run(), 3);
-        QueryRunner r = sized(3, 0, 2);
+        QueryRunner r = Make.sized(3, 0, 2);
         r.item(r.node(5, 0, 0));
-        lines("19: one row of none", r, 1, "0");
+        check.answers("19: one row of none", r, 1, "0");
     }
 
     private static void refusesLooseColumns() {
-        QueryRunner q = sized(3, 1);
+        QueryRunner q = Make.sized(3, 1);
         int first = q.column(0, 0);
         q.item(first);
         check.same("19: no groups, no aggregate", q.run(), 3);
@@ -86,13 +68,13 @@ public final class RunTest {
         check.same("19: another node of its column is the group", q.run(), 3);
         q.item(q.node(11, q.column(0, 0), q.column(1, 0)));
         check.same("19: deep in an item, of groups", q.run(), 3);
-        QueryRunner r = sized(3);
+        QueryRunner r = Make.sized(3);
         r.item(r.node(11, r.column(0, 0), r.node(7, r.column(0, 0), 0)));
         check.same("19: in and outside an aggregate", r.run(), -3);
-        QueryRunner s = sized(3);
+        QueryRunner s = Make.sized(3);
         s.where(s.node(19, s.column(0, 0), Make.constant(s, 2)));
         s.item(s.node(7, s.column(0, 0), 0));
-        lines("19: a column of the condition is not an item's", s, 1, "1");
+        check.answers("19: a column of the condition is not an item's", s, 1, "1");
         QueryRunner t = new QueryRunner();
         t.table(2, 11);
         t.group(t.column(0, 0));
@@ -101,7 +83,7 @@ public final class RunTest {
     }
 
     private static void refusesTooManyCombinations() {
-        QueryRunner q = sized(40, 40, 25);
+        QueryRunner q = Make.sized(40, 40, 25);
         q.item(q.node(5, 0, 0));
         q.where(q.node(17, q.column(2, 0), Make.constant(q, 24)));
         check.same("19: 40000", q.run(), 1);
@@ -110,14 +92,14 @@ public final class RunTest {
         check.same("19: 41600", q.run(), -2);
         q.where(Make.constant(q, false));
         check.same("19: even if none counts", q.run(), -2);
-        QueryRunner r = sized(40, 40, 0);
+        QueryRunner r = Make.sized(40, 40, 0);
         r.item(r.node(5, 0, 0));
         check.same("19: 0 counts as 1", r.run(), 1);
         check.same("19: of no combination", r.value(0, 0), 0);
     }
 
     private static void refusesTooManyThatCount() {
-        QueryRunner q = sized(40, 25, 2);
+        QueryRunner q = Make.sized(40, 25, 2);
         q.item(q.node(5, 0, 0));
         check.same("19: 2000 count", q.run(), 1);
         check.same("19: all 2000", q.value(0, 0), 2000);
@@ -136,7 +118,7 @@ public final class RunTest {
     }
 
     private static void refusalsGoInOrder() {
-        QueryRunner q = sized(40, 40, 40);
+        QueryRunner q = Make.sized(40, 40, 40);
         check.same("19: -1 before -2", q.run(), -1);
         q.item(q.column(0, 0));
         check.same("19: too many", q.run(), -2);
@@ -145,7 +127,7 @@ public final class RunTest {
     }
 
     private static void refusedRunsKeepTheAnswer() {
-        QueryRunner q = sized(40, 2);
+        QueryRunner q = Make.sized(40, 2);
         q.item(q.column(0, 0));
         q.item(q.column(1, 0));
         q.limit(5);
@@ -168,7 +150,7 @@ public final class RunTest {
     }
 
     private static void keepsTheFirst64() {
-        QueryRunner q = sized(40, 40);
+        QueryRunner q = Make.sized(40, 40);
         q.item(q.column(0, 0));
         q.item(q.column(1, 0));
         check.same("19: all rows are told", q.run(), 1600);
@@ -193,7 +175,7 @@ public final class RunTest {
     }
 
     private static void answersStay() {
-        QueryRunner q = sized(2);
+        QueryRunner q = Make.sized(2);
         q.item(q.column(0, 0));
         q.run();
         Make.row(q, 0, 77);
@@ -210,7 +192,7 @@ public final class RunTest {
     }
 
     private static void readsKinds() {
-        QueryRunner q = sized(1);
+        QueryRunner q = Make.sized(1);
         Object[] values = {null, -5L, "a\u00ff\0", true, false, ""};
         int[] kinds = {0, 1, 2, 3, 3, 2};
         long[] numbers = {0, -5, 3, 1, 0, 0};
@@ -229,7 +211,7 @@ public final class RunTest {
         check.same("22: no byte -1", q.letter(0, 2, -1), -1);
         check.same("22: no far byte", q.letter(0, 2, Integer.MAX_VALUE), -1);
         check.same("22: no byte far below", q.letter(0, 2, Integer.MIN_VALUE), -1);
-        QueryRunner r = sized(1);
+        QueryRunner r = Make.sized(1);
         String whole = "0123456789abcdefghijklmnopqrstu";
         r.item(Make.constant(r, whole));
         r.run();
@@ -239,7 +221,7 @@ public final class RunTest {
     }
 
     private static void readsNothing() {
-        QueryRunner q = sized(2);
+        QueryRunner q = Make.sized(2);
         q.item(Make.constant(q, "ab"));
         q.run();
         int[][] none = {
@@ -256,7 +238,7 @@ public final class RunTest {
 
     /** 1600 combinations, each a group of its own, or with 79 sums that differ. */
     private static void manyGroups() {
-        QueryRunner q = sized(40, 40);
+        QueryRunner q = Make.sized(40, 40);
         q.group(q.column(0, 0));
         q.group(q.column(1, 0));
         q.item(q.node(5, 0, 0));
@@ -264,7 +246,7 @@ public final class RunTest {
         q.distinct(true);
         check.same("19: all with one row", q.run(), 1);
         check.same("21: one", q.value(0, 0), 1);
-        QueryRunner r = sized(40, 40);
+        QueryRunner r = Make.sized(40, 40);
         r.item(r.node(11, r.column(0, 0), r.column(1, 0)));
         r.distinct(true);
         check.same("19: sums that differ", r.run(), 79);
